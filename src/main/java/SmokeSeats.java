@@ -963,7 +963,7 @@ public final class SmokeSeats {
             reduce();
         }
 
-        /** Of room k, told and taken but not yet blown: in units of one by ten for each STEP from k on. */
+        /** What is due of STEP k and those behind it, times ten for each of them: so it stays whole. */
         private long weightBehind(int k) {
             Room room = rooms[k];
             int had = room.heldBy(whom);
@@ -1011,11 +1011,8 @@ public final class SmokeSeats {
             return ten;
         }
 
-        /** The denominator is a power of ten: no other divisors than 2 and 5 are shared. */
+        /** The denominator is a power of ten: no other divisors than 2 and 5 are shared; 0 shares them all. */
         void reduce() {
-            if (above == 0) {
-                below = 1;
-            }
             for (int k = 0; k < MOST_CHANCES && above % 2 == 0 && below % 2 == 0; k++) {
                 above /= 2;
                 below /= 2;

@@ -50,6 +50,7 @@ public final class PromisesTest {
         drift();
         keep();
         back();
+        backToSeen();
         sheet();
         lay();
         read();
@@ -173,6 +174,29 @@ public final class PromisesTest {
         due("text, most", Checks.tell(x, "plain 0 1 0;heavy 0 1 0;thin 0 1 0;sitter 0 0;sitter 0 0;sitter 0 0;"
             + "sitter 0 0;air 0 1;air 1 1;air 2 1;air 3 1;air 4 1;air 5 1;price 0 0;price 1 1;"), 15);
         due("text, most: kinds", x.life(0, 0) + 10 * x.life(1, 0) + 100 * x.life(2, 0), 210);
+        // nothing of an evening that was tried out, or of more lives and sitters, is left behind
+        x = told("plain 11 9 99;plain 11 9 99;plain 11 9 99;sitter 11 5;sitter 11 5;sitter 11 5;sitter 11 5;air 0 1;"
+            + "price 1 9;price 0 1;");
+        x.runs(60, 0);
+        x.steps(2);
+        x.open();
+        x.steps(5);
+        x.runs(3, 0);
+        due("text, fewer", Checks.tell(x, "thin 11 1 1;sitter 21 1;"), 2);
+        int[] fewer = {1, 1, 0, 0, 0, 0};
+        for (int what = 0; what < fewer.length; what++) {
+            due("text, fewer: rule " + what, x.rule(what), fewer[what]);
+        }
+        due("text, fewer: in 11", x.in(11, 0), 0);
+        due("text, fewer: lost", x.life(0, 5), 0);
+        due("text, fewer: has", x.life(0, 6) + x.has(0, 0), 0);
+        due("text, fewer: air", x.air(0), 0);
+        due("text, fewer: left", x.count(4), 1);
+        due("text, fewer: prices", x.count(5), 0);
+        x.steps(3);
+        due("text, fewer: in 11 then", x.in(11, 0), 1);
+        due("text, fewer: all then", x.rule(3) + x.rule(4) + x.rule(5), 1);
+        due("text, fewer: over", x.over(), NONE);
         due("text, empty again", x.text(), 0);
         due("text, empty again: lives", x.rule(0), 0);
         due("text, empty again: sitters", x.rule(1), 0);
@@ -196,6 +220,14 @@ public final class PromisesTest {
         faulty("air 12345678901234567890 1;", 4, 1);
         faulty("nobody 1 2;", 0, 2);
         faulty("airs 1 2;", 0, 2);
+        faulty("dir 1 2;", 0, 2);
+        faulty("aim 1 2;", 0, 2);
+        faulty("z", 0, 2);
+        faulty("airz 1 2;", 0, 2);
+        faulty("{", 0, 1);
+        faulty("`", 0, 1);
+        faulty("air / 2;", 4, 1);
+        faulty("air : 2;", 4, 1);
         faulty("ai 1 2;", 0, 2);
         faulty("plainthin 1 1 1;", 0, 2);
         faulty(";", 0, 2);
@@ -554,6 +586,11 @@ public final class PromisesTest {
         for (int k = 0; k < want.length; k++) {
             due("at once " + k, y.in(10 * k, 0), want[k]);
         }
+        y = told("thin 10 3 3;air 0 2;air 1 2;");
+        y.steps(1);
+        due("into the first cell", y.in(0, 0), 3);
+        y.steps(1);
+        due("out of the first cell", y.life(0, 5), 3);
         // the seventh STEP goes by AIR 0 again
         y = told("thin 22 1 9;air 0 1;");
         y.steps(6);
@@ -592,6 +629,7 @@ public final class PromisesTest {
         x.steps(2);
         due("runs from 2 on, 3", x.runs(1, 3), NONE);
         due("runs from 2 on, 3, farther", x.runs(60, 3), 2);
+        due("runs, one alone is taken", told("plain 0 1 1;sitter 1 1;sitter 0 1;").runs(9, 3), 1);
         due("runs 61", x.runs(61, 0), BAD);
         due("runs what 4", x.runs(1, 4), BAD);
         for (int n : NO_NUMBERS) {
@@ -725,6 +763,7 @@ public final class PromisesTest {
         x.steps(1);
         due("cheap, has it", x.cheap(0, 0, 9), 2);
         due("cheap, has not", x.cheap(0, 0, 10), NONE);
+        due("cheap, the first cell at the highest price", told("plain 0 1 1;sitter 1 1;price 0 9;").cheap(0, 0, 1), 0);
         // 30 STEPS, and not one more
         x = told("plain 21 1 99;sitter 0 1;");
         due("cheap 30", x.cheap(0, 0, 30), 21);
@@ -816,6 +855,10 @@ public final class PromisesTest {
         x.steps(3);
         due("swap of one and the other", x.swap(1, 0), 1);
         due("swap of one and the other, how much", x.swap(1, 1), 12);
+        x = told("plain 22 4 90;sitter 0 0;sitter 1 9;sitter 2 9;sitter 22 1;");
+        due("swap of 1 and 3", x.swap(1, 0), 13);
+        x.seat(1, 1, 2);
+        due("swap of 2 and 3", x.swap(1, 0), 23);
         due("swap, nobody", told("plain 0 1 1;").swap(9, 0), NONE);
         due("swap, one alone", told("plain 0 1 1;sitter 1 1;").swap(9, 0), NONE);
     }
@@ -839,6 +882,16 @@ public final class PromisesTest {
             due("fan of " + n, x.fan(n, 0, 0), BAD);
             due("fan what " + n, x.fan(0, 0, n), BAD);
         }
+        due("fan 0", x.fan(0, 0, 0), NONE);
+        x = told("thin 22 5 5;sitter 21 9;");
+        due("fan y less", x.fan(0, 2, 0), 4);
+        x.steps(1);
+        x.blow(1, 4);
+        due("fan as it is", x.fan(0, 2, 0), NONE);
+        x.blow(1, 0);
+        due("fan from 1 on", x.fan(0, 2, 0), 14);
+        x.steps(5);
+        due("fan from 6 on", x.fan(0, 2, 0), 4);
         // to still an air may be best, too
         x = told("thin 22 5 9;sitter 22 2;air 0 3;air 1 3;air 2 3;");
         due("fan to still", x.fan(0, 2, 0), NONE);
@@ -863,6 +916,10 @@ public final class PromisesTest {
         fraction("luck 8", x.luck(3, 0, 8, 0), x.luck(3, 0, 8, 1), 99757, 100000);
         fraction("luck of 0", x.luck(0, 0, 2, 0), x.luck(0, 0, 2, 1), 1, 1);
         fraction("luck of 10", x.luck(10, 0, 8, 0), x.luck(10, 0, 8, 1), 0, 1);
+        fraction("luck 0 behind others", x.luck(3, 0, 0, 0), x.luck(3, 0, 0, 1), 0, 1);
+        x.seat(1, 1, 1);
+        fraction("luck 1 at the table", x.luck(3, 1, 1, 0), x.luck(3, 1, 1, 1), 1, 1);
+        x.seat(1, 1, 0);
         fraction("luck of no sleeve", x.luck(3, 1, 8, 0), x.luck(3, 1, 8, 1), 0, 1);
         fraction("luck of 5", x.luck(5, 0, 3, 0), x.luck(5, 0, 3, 1), 3, 4);
         due("luck: STEP", x.rule(2), 0);
@@ -894,6 +951,7 @@ public final class PromisesTest {
         // 1 where the first air blows, 1 more where the second is still then, 1 where the second blows alone
         fraction("mean 3", x.mean(3, 0, 3, 0), x.mean(3, 0, 3, 1), 28, 25);
         fraction("mean of 0", x.mean(0, 0, 3, 0), x.mean(0, 0, 3, 1), 1, 1);
+        fraction("mean 0 behind others", x.mean(3, 0, 0, 0), x.mean(3, 0, 0, 1), 0, 1);
         fraction("mean of 10", x.mean(10, 0, 8, 0), x.mean(10, 0, 8, 1), 0, 1);
         due("mean: STEP", x.rule(2), 0);
         x.steps(2);
@@ -981,6 +1039,13 @@ public final class PromisesTest {
         x.forget(0);
         x.see(0, 0, 2, 2);
         due("kinds of the other, as it is", x.kinds(1), 15);
+        x.forget(0);
+        x.see(0, 1, 2, 1);
+        due("kinds of life 1", x.kinds(1), 13);
+        // were life 0 thin, his sleeve would be full of it
+        due("kinds of life 0 by what is seen of life 1", x.kinds(0), 11);
+        x.forget(0);
+        x.see(0, 0, 2, 2);
         // from now on: the same is asked behind each STEP anew
         x.steps(1);
         due("kinds from 1 on", x.kinds(0), 15);
@@ -1047,6 +1112,13 @@ public final class PromisesTest {
             due("ask of " + n, x.ask(n, 0), BAD);
             due("ask what " + n, x.ask(0, n), BAD);
         }
+        x = told("thin 43 1 1;sitter 40 1;sitter 12 1;air 0 1;");
+        due("ask sitter 0", x.ask(0, 0), 0);
+        due("ask sitter 0, how many", x.ask(0, 1), 15);
+        x.see(1, 0, 2, 1);
+        x.see(1, 0, 1, 0);
+        due("ask, of one cell", x.froms(0, 0), 1);
+        due("ask, of one cell, nobody", x.ask(0, 0), NONE);
         due("ask, no sitters", told("plain 0 1 1;").ask(0, 0), NONE);
     }
 
@@ -1075,6 +1147,11 @@ public final class PromisesTest {
             x.alter(0, 1, way == 0 ? 12 : walls[way]);
             due("drift of the seed " + seed, x.drift(seed, 1, 1), way == 0 ? 0 : 1);
         }
+        // one STEP is told and taken, and not one more
+        x = told("plain 0 2 90;sitter 0 2;sitter 43 2;");
+        due("drift 1", x.drift(5, 1, 0), 2);
+        due("drift 7", x.drift(5, 7, 0), 14);
+        due("drift 45", x.drift(5, 45, 0), 90);
         // what is lost and had ahead does not count
         x = told("plain 0 9 9;sitter 0 4;");
         x.steps(1);
@@ -1148,9 +1225,32 @@ public final class PromisesTest {
         due("back: the tape", x.count(2), 1);
         due("back: sheet 0", x.count(3), 5);
         due("back: images", x.count(1), 1);
+        x.forget(1);
+        due("back: kinds by the first seen", x.kinds(0), 15);
+        x.back(1);
+        x.forget(0);
+        x.see(0, 1, 0, 2);
+        x.see(1, 0, 1, 3);
+        x.back(1);
+        due("back: froms", x.froms(0, 0), 0);
         x.steps(1);
         due("back again", x.back(1), 2);
         due("back to the other", x.back(0), STATE);
+    }
+
+    /** Each number of what was seen comes back with its image. */
+    private static void backToSeen() {
+        SmokeSeats x = told("heavy 0 9 9;plain 0 1 1;sitter 10 9;sitter 43 9;air 0 1;");
+        x.see(0, 0, 2, 5);
+        x.keep(0);
+        int[][] others = {{1, 0, 2, 5}, {0, 1, 2, 5}, {0, 0, 1, 5}, {0, 0, 2, 2}};
+        for (int[] o : others) {
+            x.forget(0);
+            x.see(o[0], o[1], o[2], o[3]);
+            due("seen ahead of back", x.kinds(0), o[3] == 2 ? 2 : 0);
+            x.back(0);
+            due("seen behind back", x.kinds(0), 1);
+        }
     }
 
     // Promise 38
