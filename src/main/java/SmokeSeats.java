@@ -282,7 +282,7 @@ public final class SmokeSeats {
         if (!now.isSitter(i) || !isWithin(n, 0, FARTHEST) || !isWithin(what, 0, 1)) {
             return BAD;
         }
-        int least = Integer.MAX_VALUE;
+        int least = FARTHEST * MOST_SLEEVE + 1;
         int at = 0;
         for (int c = 0; c < CELLS; c++) {
             sitThere(i, c, n);
@@ -825,23 +825,22 @@ public final class SmokeSeats {
                 for (int k = 0; k < CELLS && rest > 0; k++) {
                     int cell = isDown ? CELLS - 1 - k : k;
                     int much = cells[l * CELLS + cell];
-                    if (much > 0) {
-                        rest -= much;
-                        carryFrom(l, cell, way);
+                    int gone = much > 0 ? moved(kinds[l], much) : 0;
+                    rest -= much;
+                    if (gone > 0) {
+                        cells[l * CELLS + cell] -= gone;
+                        give(l, beside(cell, way), gone);
                     }
                 }
             }
         }
 
-        void carryFrom(int l, int cell, int way) {
-            int much = moved(kinds[l], cells[l * CELLS + cell]);
-            int to = beside(cell, way);
-            cells[l * CELLS + cell] -= much;
-            if (to < 0) {
+        void give(int l, int cell, int much) {
+            if (cell < 0) {
                 lost[l] += much;
                 aloft[l] -= much;
             } else {
-                cells[l * CELLS + to] += much;
+                cells[l * CELLS + cell] += much;
             }
         }
 
@@ -911,7 +910,7 @@ public final class SmokeSeats {
                 if (!fitsBehind(room, k)) {
                     return false;
                 }
-                room.goOn(1);
+                room.pass(room.wayNow());
             }
             return fitsBehind(room, n);
         }
@@ -1026,7 +1025,7 @@ public final class SmokeSeats {
 
     /** THE TAPE, and how its TOKENS are read; a fault stands at the TOKEN that was read last. */
     private static final class Tape {
-        private static final int END = 0, NAME = 1, NUMBER = 2, SEMICOLON = 3;
+        private static final int END = 0, NAME = 1, NUMBER = 2, SEMICOLON = 3, NO_SIGN = 4;
         private static final int NO_TOKEN = 1, MISPLACED = 2, OUT_OF_BOUNDS = 3, TOLD_ALREADY = 4, TOO_MANY = 5;
         private static final int SITTER = 4, AIR = 5, PRICE = 6, NO_WORD = 7;
 
@@ -1037,8 +1036,7 @@ public final class SmokeSeats {
         int next = 0;
         int token = END;
         int number = 0;
-        int airsTold = 0;
-        int rowsTold = 0;
+        int told = 0;
 
         boolean put(int c) {
             if (length >= TAPE_BYTES) {
@@ -1054,8 +1052,7 @@ public final class SmokeSeats {
             room.clear();
             fault = 0;
             next = 0;
-            airsTold = 0;
-            rowsTold = 0;
+            told = 0;
             int lines = 0;
             // each line takes bytes, so no text has more of them than the tape
             while (lines <= TAPE_BYTES && readToken() && token != END && readLine(room)) {
@@ -1074,45 +1071,29 @@ public final class SmokeSeats {
                 next++;
             }
             start = next;
-            if (next >= length) {
-                token = END;
+            token = next < length ? tokenOf(bytes[next]) : END;
+            if (token == END) {
                 return true;
             }
-            if (isLetter(next)) {
-                return readName();
-            }
-            if (isFigure(next)) {
-                return readFigures();
-            }
-            token = SEMICOLON;
             next++;
-            return bytes[start] == ';' || refuse(NO_TOKEN);
-        }
-
-        boolean isLetter(int k) {
-            return k < length && bytes[k] >= 'a' && bytes[k] <= 'z';
-        }
-
-        boolean isFigure(int k) {
-            return k < length && bytes[k] >= '0' && bytes[k] <= '9';
-        }
-
-        boolean readName() {
-            token = NAME;
-            while (next < length && isLetter(next)) {
+            boolean isRun = token == NAME || token == NUMBER;
+            while (isRun && next < length && tokenOf(bytes[next]) == token) {
                 next++;
+            }
+            if (token == NO_SIGN || token == NUMBER && next - start > 2) {
+                return refuse(NO_TOKEN);
             }
             return true;
         }
 
-        boolean readFigures() {
-            token = NUMBER;
-            number = 0;
-            while (next < length && isFigure(next)) {
-                number = number * 10 + bytes[next] - '0';
-                next++;
+        static int tokenOf(byte sign) {
+            if (sign >= 'a' && sign <= 'z') {
+                return NAME;
             }
-            return next - start <= 2 || refuse(NO_TOKEN);
+            if (sign >= '0' && sign <= '9') {
+                return NUMBER;
+            }
+            return sign == ';' ? SEMICOLON : NO_SIGN;
         }
 
         /** Its first TOKEN has been read. */
@@ -1122,8 +1103,8 @@ public final class SmokeSeats {
             switch (word) {
                 case NO_WORD: return refuse(MISPLACED);
                 case SITTER: isTold = readSitter(room); break;
-                case AIR: isTold = readAir(room); break;
-                case PRICE: isTold = readPrice(room); break;
+                case AIR: isTold = readOnce(room.ways, 0, Y_LESS); break;
+                case PRICE: isTold = readOnce(room.prices, AIRS, MOST_PRICE); break;
                 default: isTold = readLife(room, word); break;
             }
             return isTold && readToken() && (token == SEMICOLON || refuse(MISPLACED));
@@ -1202,35 +1183,21 @@ public final class SmokeSeats {
             return true;
         }
 
-        boolean readAir(Room room) {
-            if (!readNumber(0, AIRS - 1)) {
+        /** Which of the row, and its number; the bits of what is told already of the row begin at its first bit. */
+        boolean readOnce(int[] row, int first, int most) {
+            if (!readNumber(0, row.length - 1)) {
                 return false;
             }
             int k = number;
-            if ((airsTold >> k & 1) == 1) {
+            int bit = 1 << (first + k);
+            if ((told & bit) != 0) {
                 return refuse(TOLD_ALREADY);
             }
-            airsTold |= 1 << k;
-            if (!readNumber(STILL, Y_LESS)) {
+            told |= bit;
+            if (!readNumber(0, most)) {
                 return false;
             }
-            room.ways[k] = number;
-            return true;
-        }
-
-        boolean readPrice(Room room) {
-            if (!readNumber(0, ROWS - 1)) {
-                return false;
-            }
-            int y = number;
-            if ((rowsTold >> y & 1) == 1) {
-                return refuse(TOLD_ALREADY);
-            }
-            rowsTold |= 1 << y;
-            if (!readNumber(0, MOST_PRICE)) {
-                return false;
-            }
-            room.prices[y] = number;
+            row[k] = number;
             return true;
         }
 
@@ -1244,6 +1211,10 @@ public final class SmokeSeats {
             }
             if (token != NUMBER) {
                 return refuse(MISPLACED);
+            }
+            number = 0;
+            for (int k = start; k < next; k++) {
+                number = number * 10 + bytes[k] - '0';
             }
             return isWithin(number, least, most) || refuse(OUT_OF_BOUNDS);
         }

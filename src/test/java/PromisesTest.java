@@ -175,7 +175,7 @@ public final class PromisesTest {
             + "sitter 0 0;air 0 1;air 1 1;air 2 1;air 3 1;air 4 1;air 5 1;price 0 0;price 1 1;"), 15);
         due("text, most: kinds", x.life(0, 0) + 10 * x.life(1, 0) + 100 * x.life(2, 0), 210);
         // nothing of an evening that was tried out, or of more lives and sitters, is left behind
-        x = told("plain 11 9 99;plain 11 9 99;plain 11 9 99;sitter 11 5;sitter 11 5;sitter 11 5;sitter 11 5;air 0 1;"
+        x = told("plain 11 9 99;plain 11 9 99;plain 11 9 99;sitter 11 1;sitter 11 1;sitter 11 1;sitter 11 1;air 0 1;"
             + "price 1 9;price 0 1;");
         x.runs(60, 0);
         x.steps(2);
@@ -921,6 +921,8 @@ public final class PromisesTest {
         fraction("luck 1 at the table", x.luck(3, 1, 1, 0), x.luck(3, 1, 1, 1), 1, 1);
         x.seat(1, 1, 0);
         fraction("luck of no sleeve", x.luck(3, 1, 8, 0), x.luck(3, 1, 8, 1), 0, 1);
+        fraction("luck of 1", x.luck(1, 0, 3, 0), x.luck(1, 0, 3, 1), 99, 100);
+        fraction("luck of 9", x.luck(9, 0, 3, 0), x.luck(9, 0, 3, 1), 19, 100);
         fraction("luck of 5", x.luck(5, 0, 3, 0), x.luck(5, 0, 3, 1), 3, 4);
         due("luck: STEP", x.rule(2), 0);
         due("luck of 11", x.luck(11, 0, 1, 0), BAD);
