@@ -1150,7 +1150,7 @@ public final class SmokeSeats {
                 return refuse(TOO_MANY);
             }
             room.kinds[l] = kind;
-            if (!readCell()) {
+            if (!readNumber(0, MOST_LEFT) || !namesCell()) {
                 return false;
             }
             room.tables[l] = cellOf(number);
@@ -1171,7 +1171,7 @@ public final class SmokeSeats {
             if (i >= MOST_SITTERS) {
                 return refuse(TOO_MANY);
             }
-            if (!readCell()) {
+            if (!readNumber(0, MOST_LEFT) || !namesCell()) {
                 return false;
             }
             room.places[i] = cellOf(number);
@@ -1201,8 +1201,9 @@ public final class SmokeSeats {
             return true;
         }
 
-        boolean readCell() {
-            return readNumber(0, MOST_LEFT) && (isCell(number) || refuse(OUT_OF_BOUNDS));
+        /** Asked behind readNumber() and not around it: the calls would go too deep. */
+        boolean namesCell() {
+            return isCell(number) || refuse(OUT_OF_BOUNDS);
         }
 
         boolean readNumber(int least, int most) {

@@ -1,23 +1,44 @@
 /** What the project's tests share: answers compared, texts fed letter by letter. */
 final class Checks {
+    static final int BAD = -1, STATE = -2, FULL = -3, NONE = -4;
+    static final int LEAST = Integer.MIN_VALUE, MOST = Integer.MAX_VALUE;
+
     private static int made = 0;
     private static int wrong = 0;
+    private static String where = "";
 
     private Checks() {
+    }
+
+    /** The words of the document that the answers from here on hold to; 0 stands for its Terms. */
+    static void sentence(int promise, String words) {
+        where = (promise == 0 ? "Terms" : "promise " + promise) + " '" + words + "': ";
     }
 
     static void due(String call, long got, long want) {
         made++;
         if (got != want) {
             wrong++;
-            System.out.println(call + " answered " + got + ", due is " + want);
+            System.out.println(where + call + " answered " + got + ", due is " + want);
+        }
+    }
+
+    static void alike(String call, String got, String want) {
+        made++;
+        if (!got.equals(want)) {
+            wrong++;
+            System.out.println(where + call + ": " + got + ", due is " + want);
+        }
+    }
+
+    static void feed(SmokeSeats x, String text) {
+        for (int k = 0; k < text.length(); k++) {
+            x.feed(text.charAt(k));
         }
     }
 
     static int tell(SmokeSeats x, String text) {
-        for (int k = 0; k < text.length(); k++) {
-            x.feed(text.charAt(k));
-        }
+        feed(x, text);
         return x.text();
     }
 
