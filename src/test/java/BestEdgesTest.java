@@ -58,6 +58,15 @@ public final class BestEdgesTest {
         SmokeSeats x = told("plain 21 9 9;thin 12 5 99;sitter 0 9;");
         due("best(0, 0, 1)", x.best(0, 0, 1), 21);
         due("best(0, 1, 1)", x.best(0, 1, 1), 12);
+        // SITTER 1 of LIFE 0, 6 AT 3 and 9 AT 40; what SITTER 0 HAS of LIFE 1 is of no matter
+        x = told("plain 3 6 6;thin 0 9 9;sitter 0 9;sitter 43 0;");
+        x.steps(1);
+        x.alter(0, 1, 40);
+        x.alter(0, 2, 9);
+        x.alter(0, 3, 9);
+        x.seat(1, 1, 9);
+        due("best(1, 0, 1)", x.best(1, 0, 1), 40);
+        due("best(0, 1, 1)", x.best(0, 1, 1), 0);
         Checks.sentence(22, "of several the first: the CELL. BAD");
         due("best of 3 and 10", filledBut(1, 3, 2, 4, 2, 9).best(0, 0, 1), 3);
         due("best of 0 and 43", filledBut(1, 0, 2, 19, 2, 9).best(0, 0, 1), 0);
@@ -207,6 +216,28 @@ public final class BestEdgesTest {
         x.seat(0, 1, 1);
         due("clean(0, 59, 1), 1 a STEP", x.clean(0, 59, 1), 59);
         due("clean(0, 60, 1), 1 a STEP", x.clean(0, 60, 1), 60);
+        x = plentyInEachCell();
+        due("clean(0, 60, 1), 9 a STEP", x.clean(0, 60, 1), 540);
+        due("clean(0, 60, 0), 9 a STEP", x.clean(0, 60, 0), 0);
+    }
+
+    /** Three LIVES, 180 of each IN each CELL: as much as a sleeve of 9 takes in 60 STEPS. */
+    private static SmokeSeats plentyInEachCell() {
+        SmokeSeats x = told("plain 0 9 0;heavy 0 9 0;thin 0 9 0;sitter 22 0;");
+        for (int c = 0; c < 20; c++) {
+            for (int l = 0; l < 3; l++) {
+                x.alter(l, 1, Evenings.name(c));
+                x.alter(l, 3, 99);
+            }
+            x.steps(11);
+            for (int l = 0; l < 3; l++) {
+                x.alter(l, 3, 81);
+            }
+            x.steps(9);
+        }
+        due("IN CELLS", x.rule(3), 20 * 540);
+        x.seat(0, 1, 9);
+        return x;
     }
 
     // ---- promise 25
@@ -223,6 +254,17 @@ public final class BestEdgesTest {
         x.steps(1);
         due("need(0, 0, 5), HAD already", x.need(0, 0, 5), 0);
         due("need(0, 0, 6), gone", x.need(0, 0, 6), NONE);
+        // each SITTER by his own sleeve, each LIFE by itself
+        x = told("plain 3 1 0;thin 40 9 9;sitter 40 0;sitter 3 0;sitter 40 2;air 0 1;");
+        due("need(2, 1, 4)", x.need(2, 1, 4), 4);
+        due("need(0, 1, 4)", x.need(0, 1, 4), 4);
+        due("need(1, 1, 1)", x.need(1, 1, 1), NONE);
+        due("need(2, 0, 1)", x.need(2, 0, 1), NONE);
+        // 18 wait and go by the air of the next STEP: a sleeve of 10 would do, but there is none
+        x = told("thin 40 9 18;sitter 40 0;air 2 1;");
+        x.steps(2);
+        due("need(0, 0, 9) of 18", x.need(0, 0, 9), 9);
+        due("need(0, 0, 10) of 18", x.need(0, 0, 10), NONE);
         x = had999();
         due("need(0, 0, 1) of 999", x.need(0, 0, 1), 0);
         due("need(0, 0, 999) of 999", x.need(0, 0, 999), 0);
@@ -434,6 +476,13 @@ public final class BestEdgesTest {
         // still airs are still in any case; AIR 0 comes again in STEP 6
         luck(x, 4, 1, 7, 3, 5);
         luck(x, 4, 1, 8, 21, 25);
+        // to 1 it comes if AIR 0 falls still and AIR 1 does not: v times 10 less v, out of a hundred
+        x = told("thin 0 1 1;sitter 1 1;air 0 1;air 1 3;");
+        long[][] want = {{0, 1}, {9, 100}, {4, 25}, {21, 100}, {6, 25}, {1, 4}, {6, 25}, {21, 100}, {4, 25}, {9, 100}, {0, 1}};
+        for (int v = 0; v <= 10; v++) {
+            luck(x, v, 0, 3, want[v][0], want[v][1]);
+            mean(x, v, 0, 3, want[v][0], want[v][1]);
+        }
         // from now on: what he HAS already is no luck
         x = told("thin 0 9 9;sitter 0 9;");
         x.steps(1);

@@ -149,6 +149,19 @@ public final class SeenEdgesTest {
         due("kinds(-1)", x.kinds(-1), BAD);
         due("kinds(0), no LIVES", Evenings.of(0, 1).kinds(0), BAD);
         due("kinds(0), nobody", Evenings.of(1, 0).kinds(0), 15);
+        // each LIFE by itself, all else as it is
+        for (int l = 0; l <= 2; l++) {
+            for (int seen = 0; seen <= 3; seen++) {
+                x = told("plain 3 1 0;plain 3 1 0;plain 3 1 0;sitter 10 9;air 0 1;");
+                x.alter(l, 1, 0);
+                x.alter(l, 2, 9);
+                x.alter(l, 3, 9);
+                x.see(0, l, 2, much[seen]);
+                for (int other = 0; other <= 2; other++) {
+                    due("kinds(" + other + ") by LIFE " + l, x.kinds(other), other == l ? 1 << seen : seen == 0 ? 15 : 0);
+                }
+            }
+        }
         // of 1: none of a heavy one moves, all of any other
         x = told("heavy 0 1 1;sitter 10 9;air 0 1;");
         x.see(0, 0, 2, 1);
@@ -277,6 +290,15 @@ public final class SeenEdgesTest {
         SmokeSeats x = told("thin 0 1 1;sitter 12 0;sitter 22 1;sitter 32 1;");
         due("ask(0, 0), of two alike", x.ask(0, 0), 1);
         due("ask(0, 1), of two alike", x.ask(0, 1), 19);
+        for (int i = 0; i <= 3; i++) {
+            for (int c = 0; c < 20; c++) {
+                x = told("plain 0 1 0;thin 0 1 1;sitter 0 0;sitter 0 0;sitter 0 0;sitter 0 0;");
+                x.seat(i, 0, Evenings.name(c));
+                x.seat(i, 1, 1);
+                due("ask(1, 0), SITTER " + i + " alone IN " + Evenings.name(c), x.ask(1, 0), i);
+                due("ask(1, 1), SITTER " + i + " alone IN " + Evenings.name(c), x.ask(1, 1), 19);
+            }
+        }
         // x more by AIR 0: 32 tells of 32, 22, 12, 2; SITTER 1 takes what would come from 22, 12, 2
         x = told("thin 0 1 1;sitter 12 0;sitter 23 1;sitter 32 1;air 0 1;");
         due("ask(0, 0), the last", x.ask(0, 0), 2);

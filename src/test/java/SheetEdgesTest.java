@@ -178,6 +178,37 @@ public final class SheetEdgesTest {
         SmokeSeats y = keptAndBack(1, false);
         due("STEP", x.rule(2), y.rule(2));
         due("back(1)", x.back(1), y.rule(2));
+        // what is IN the last CELL of the last LIFE
+        x = told("plain 43 1 1;plain 43 2 2;plain 43 3 3;");
+        x.steps(1);
+        x.keep(0);
+        x.open();
+        x.back(0);
+        for (int l = 0; l < 3; l++) {
+            due("in(43, " + l + ")", x.in(43, l), l + 1);
+        }
+        due("runs(1, 2)", x.runs(1, 2), 6);
+        // each number of each of the six SEEN
+        x = told("plain 0 2 9;plain 1 1 9;sitter 1 1;sitter 0 2;");
+        int[] so = {1, 0, 3, 6};
+        int[][] others = {{0, 0, 3, 6}, {1, 1, 3, 6}, {1, 0, 2, 6}, {1, 0, 3, 5}};
+        for (int at = 0; at < 6; at++) {
+            for (int[] other : others) {
+                x.forget(0);
+                for (int k = 0; k < 6; k++) {
+                    x.see(so[0], so[1], so[2], so[3]);
+                }
+                x.keep(0);
+                x.forget(0);
+                for (int k = 0; k < 6; k++) {
+                    int[] s = k == at ? other : so;
+                    x.see(s[0], s[1], s[2], s[3]);
+                }
+                due("kinds(0), the " + at + "-th is not so", x.kinds(0), 0);
+                due("back(0)", x.back(0), 0);
+                due("kinds(0) by the six", x.kinds(0), 15);
+            }
+        }
         // six SEEN come back, and none
         x = Evenings.of(1, 1);
         x.keep(0);

@@ -256,7 +256,9 @@ public final class StepEdgesTest {
                 s.steps(1);
                 due("LOST from " + cell + " by WAY " + way, s.life(1, 5), isIn ? 0 : 5);
                 due("IN CELLS from " + cell + " by WAY " + way, s.rule(3), isIn ? 5 : 0);
+                due("IN CELLS of it from " + cell + " by WAY " + way, s.life(1, 4), isIn ? 5 : 0);
                 due("LOST of the other", s.life(0, 5), 0);
+                due("IN CELLS of the other", s.life(0, 4), 0);
                 if (isIn) {
                     due("IN the next of " + cell + " by WAY " + way, s.in(10 * x + y, 1), 5);
                 }
@@ -491,6 +493,15 @@ public final class StepEdgesTest {
         due("wet(0, 0) from 59 on", x.wet(0, 0), NONE);
         x.steps(1);
         due("wet(0, 1) from 60 on, more than now", x.wet(0, 1), 1);
+        // each SITTER by himself, each LIFE by itself: SITTER 1 HAS of LIFE 0, SITTER 0 of LIFE 1
+        x = told("plain 0 2 99;thin 43 1 9;sitter 43 1;sitter 0 2;");
+        x.steps(3);
+        due("has(1, 0)", x.has(1, 0), 6);
+        due("has(0, 1)", x.has(0, 1), 3);
+        due("wet(1, 0)", x.wet(1, 0), 1);
+        due("wet(0, 1)", x.wet(0, 1), 1);
+        due("wet(0, 0)", x.wet(0, 0), NONE);
+        due("wet(1, 1)", x.wet(1, 1), NONE);
         Checks.sentence(20, "BAD; NONE: behind none");
         x = told("plain 0 1 60;thin 0 1 99;sitter 0 1;sitter 43 9;sitter 0 0;");
         due("wet(0, 1), in the 61st", x.wet(0, 1), NONE);

@@ -1,3 +1,6 @@
+import java.util.List;
+import java.util.function.ToLongFunction;
+
 /** The edges of promises 1 to 11: a new object, THE TAPE and its text, what is told. */
 public final class TextEdgesTest {
     private static final int BAD = Checks.BAD, STATE = Checks.STATE, FULL = Checks.FULL, NONE = Checks.NONE;
@@ -311,12 +314,49 @@ public final class TextEdgesTest {
         busy.unchangedBy("text() of a line and a fault", x -> due("text()",
             Checks.tell(x, "plain 43 9 99;sitter 43 9;air 0 2;price 0 9;air 6"), -58));
         busy.unchangedBy("text() of a fault alone", x -> due("text()", Checks.tell(x, "price 4 0;"), -16));
+        afterARefusedText();
         Checks.sentence(0, "what is refused changes nothing (but THE TAPE, as told)");
         SmokeSeats x = new SmokeSeats();
         due("text() of a fault", Checks.tell(x, "air 0 1;!"), -18);
         due("bytes", x.count(2), 0);
         due("text() behind it", x.text(), 0);
         due("air(0)", x.air(0), 0);
+    }
+
+    /** Each call goes on by the LIVES and SITTERS there were, not by those that a refused text began to tell. */
+    private static void afterARefusedText() {
+        List<ToLongFunction<SmokeSeats>> calls = List.of(
+            x -> x.life(1, 1), x -> x.sitter(1, 0), x -> x.has(1, 1), x -> x.in(22, 1), x -> x.alter(1, 2, 7),
+            x -> x.seat(1, 1, 7), x -> x.open(), x -> x.steps(3), x -> x.runs(3, 0), x -> x.ahead(1, 1, 3),
+            x -> x.wet(1, 1), x -> x.over(), x -> x.best(1, 1, 3), x -> x.cheap(1, 1, 1), x -> x.clean(1, 3, 1),
+            x -> x.need(1, 1, 1), x -> x.swap(3, 1), x -> x.fan(1, 3, 1), x -> x.luck(5, 1, 3, 0),
+            x -> x.mean(5, 1, 3, 0), x -> x.see(1, 1, 0, 0), x -> x.kinds(1), x -> x.froms(1, 0), x -> x.ask(1, 0),
+            x -> x.drift(7, 9, 0), x -> x.keep(0), x -> x.count(4), x -> x.count(5));
+        String[] refused = {"!", "thin 0 1 1;thin 0 1 1;thin 0 1 1;sitter 0 1;sitter 0 1;sitter 0 1;sitter 0 1;!"};
+        for (int k = 0; k < calls.size(); k++) {
+            for (String text : refused) {
+                SmokeSeats x = twoAndTwo();
+                due("text()", Checks.tell(x, text), -9 - text.length());
+                due("call " + k + " behind '" + text + "'", calls.get(k).applyAsLong(x),
+                    calls.get(k).applyAsLong(twoAndTwo()));
+            }
+        }
+        for (String text : refused) {
+            SmokeSeats x = twoAndTwo();
+            Checks.tell(x, text);
+            due("LIFE 2", x.life(2, 0), BAD);
+            due("SITTER 2", x.sitter(2, 0), BAD);
+            due("alter() of LIFE 2", x.alter(2, 0, 0), BAD);
+            due("wet() of LIFE 2", x.wet(0, 2), BAD);
+            due("kinds() of LIFE 2", x.kinds(2), BAD);
+            due("see() of SITTER 2", x.see(2, 0, 0, 0), BAD);
+        }
+    }
+
+    private static SmokeSeats twoAndTwo() {
+        SmokeSeats x = Checks.told("plain 12 3 30;happy 22 5 40;sitter 22 1;sitter 32 4;air 0 1;air 1 4;air 3 2;price 2 4;");
+        x.steps(5);
+        return x;
     }
 
     private static void textIsTaken() {
@@ -341,6 +381,7 @@ public final class TextEdgesTest {
         }
         due("all that is LEFT", x.count(4), 1);
         due("PRICES of nobody", x.count(5), 0);
+        theSameTextAgain();
         Checks.sentence(0, "nothing is SEEN");
         due("SEEN", x.count(0), 0);
         due("forget(0)", x.forget(0), 0);
@@ -353,6 +394,29 @@ public final class TextEdgesTest {
         // it tells of SHEETS nothing, nor of what read() found
         due("CELLS of SHEET 0", x.count(3), 5);
         due("torn()", x.torn(), 2);
+    }
+
+    /** Nothing is left behind of what was, nor of what would have been. */
+    private static void theSameTextAgain() {
+        String text = "thin 0 9 99;plain 0 9 99;heavy 0 9 99;sitter 0 9;sitter 0 9;sitter 0 9;sitter 0 9;air 0 1;";
+        SmokeSeats x = Checks.told(text);
+        x.steps(9);
+        x.open();
+        x.steps(9);
+        x.runs(60, 0);
+        due("the same text() again", Checks.tell(x, text), 8);
+        for (int k = 0; k < 12; k++) {
+            due("has(" + k / 3 + ", " + k % 3 + ")", x.has(k / 3, k % 3), 0);
+        }
+        for (int l = 0; l < 3; l++) {
+            due("LEFT of " + l, x.life(l, 3), 99);
+            due("IN CELLS of " + l, x.life(l, 4), 0);
+            due("LOST of " + l, x.life(l, 5), 0);
+            for (int c = 0; c < 20; c++) {
+                due("in(" + Evenings.name(c) + ", " + l + ")", x.in(Evenings.name(c), l), 0);
+            }
+        }
+        due("steps(1)", x.steps(1), 27);
     }
 
     // ---- promise 5
