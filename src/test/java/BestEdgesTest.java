@@ -133,7 +133,7 @@ public final class BestEdgesTest {
 
     private static void cheapEnough() {
         Checks.sentence(23, "The CELL to sit IN from now on by which a SITTER HAS v (1 to 999) or more of a LIFE");
-        SmokeSeats x = had999();
+        SmokeSeats x = Evenings.had999();
         x.price(0, 1);
         due("cheap(0, 0, 1) of 999", x.cheap(0, 0, 1), 1);
         due("cheap(0, 0, 999) of 999", x.cheap(0, 0, 999), 1);
@@ -152,17 +152,6 @@ public final class BestEdgesTest {
         due("cheap(0, 2, 1)", x.cheap(0, 2, 1), BAD);
         x.seat(0, 1, 0);
         due("cheap(0, 0, 1), no sleeve", x.cheap(0, 0, 1), NONE);
-    }
-
-    /** SITTER 0 HAS 999 of LIFE 0, and nothing is LEFT. */
-    private static SmokeSeats had999() {
-        SmokeSeats x = told("plain 0 9 0;sitter 0 9;");
-        for (int k = 0; k < 11; k++) {
-            x.alter(0, 3, k == 10 ? 9 : 99);
-            x.steps(11);
-        }
-        due("has(0, 0)", x.has(0, 0), 999);
-        return x;
     }
 
     // ---- promise 24
@@ -265,7 +254,7 @@ public final class BestEdgesTest {
         x.steps(2);
         due("need(0, 0, 9) of 18", x.need(0, 0, 9), 9);
         due("need(0, 0, 10) of 18", x.need(0, 0, 10), NONE);
-        x = had999();
+        x = Evenings.had999();
         due("need(0, 0, 1) of 999", x.need(0, 0, 1), 0);
         due("need(0, 0, 999) of 999", x.need(0, 0, 999), 0);
         due("need(0, 0, 1000)", x.need(0, 0, 1000), BAD);

@@ -191,8 +191,8 @@ public final class BoundsTest {
         Call alter = (x, a) -> x.alter(a[0], a[1], a[2]);
         Call seat = (x, a) -> x.seat(a[0], a[1], a[2]);
         Checks.sentence(0, "1 THE ROOM: CELLS x of 0 to 4 and y of 0 to 3, named 10 times x and y");
-        SmokeSeats x = Evenings.busy();
         for (int name = -60; name <= 110; name++) {
+            SmokeSeats x = Evenings.busy();
             boolean isCell = Evenings.isCell(name);
             Checks.due("in(" + name + ", 1) is taken", x.in(name, 1) != BAD ? 1 : 0, isCell ? 1 : 0);
             Checks.due("alter(1, 1, " + name + ") is taken", x.alter(1, 1, name) != BAD ? 1 : 0, isCell ? 1 : 0);

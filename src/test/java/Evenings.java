@@ -68,6 +68,17 @@ final class Evenings {
         return x;
     }
 
+    /** SITTER 0 HAS 999 of LIFE 0, and nothing is LEFT. */
+    static SmokeSeats had999() {
+        SmokeSeats x = Checks.told("plain 0 9 0;sitter 0 9;");
+        for (int k = 0; k < 11; k++) {
+            x.alter(0, 3, k == 10 ? 9 : 99);
+            x.steps(11);
+        }
+        Checks.due("has(0, 0)", x.has(0, 0), 999);
+        return x;
+    }
+
     /** So much of LIFE 0 IN each CELL, by their order; its SITTERS have no sleeves yet, the airs are still. */
     static SmokeSeats filled(String sitters, int... much) {
         SmokeSeats x = Checks.told("plain 0 9 0;" + sitters);

@@ -8,7 +8,8 @@ import java.util.function.Supplier;
  * hold. Asking changes them, and 512 calls are not enough for all of it, so each part has objects of its own.
  */
 final class Probe {
-    private static final String[] PARTS = {"the room", "what is seen", "image 0", "image 1", "the sheets", "the tape"};
+    private static final String[] PARTS = {"the room", "what is seen", "the room of image 0", "what is seen in image 0",
+        "the room of image 1", "what is seen in image 1", "the sheets", "the tape"};
 
     private final Supplier<SmokeSeats> maker;
     private final List<String> before = new ArrayList<>();
@@ -30,12 +31,13 @@ final class Probe {
 
     private static String asked(SmokeSeats x, int part) {
         StringBuilder all = new StringBuilder();
+        if (part >= 2 && part <= 5) {
+            put(all, x.back((part - 2) / 2));
+        }
         switch (part) {
-            case 0: askRoom(x, all); break;
-            case 1: askSeen(x, all); break;
-            case 2: askImage(x, 0, all); break;
-            case 3: askImage(x, 1, all); break;
-            case 4: askSheets(x, all); break;
+            case 0: case 2: case 4: askRoom(x, all); break;
+            case 1: case 3: case 5: askSeen(x, all); break;
+            case 6: askSheets(x, all); break;
             default: askTape(x, all); break;
         }
         return all.toString();
@@ -86,12 +88,6 @@ final class Probe {
                 put(all, x.froms(l, 1));
             }
         }
-    }
-
-    private static void askImage(SmokeSeats x, int k, StringBuilder all) {
-        put(all, x.back(k));
-        askRoom(x, all);
-        askSeen(x, all);
     }
 
     /** The SHEETS of the tests hold 0 to 3 alone: any CELL of them names a SITTER and a CELL of the room. */

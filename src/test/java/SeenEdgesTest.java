@@ -190,11 +190,7 @@ public final class SeenEdgesTest {
         x.steps(1);
         due("kinds(0) by 7 behind 2, from 6 on", x.kinds(0), 0);
         // 999 is HAD, 1000 can not be SEEN
-        x = told("plain 0 9 0;sitter 0 9;");
-        for (int k = 0; k < 11; k++) {
-            x.alter(0, 3, k == 10 ? 9 : 99);
-            x.steps(11);
-        }
+        x = Evenings.had999();
         x.see(0, 0, 30, 999);
         due("kinds(0) by 999", x.kinds(0), 15);
         x = Evenings.at(999, "plain 0 1 0;sitter 0 1;");
@@ -243,11 +239,13 @@ public final class SeenEdgesTest {
         due("froms(1, 0)", x.froms(1, 0), BAD);
         due("froms(0, 0), no LIVES", Evenings.of(0, 1).froms(0, 0), BAD);
         due("froms(0, 0), nobody", Evenings.of(1, 0).froms(0, 0), 20);
-        // the first by its name: 3 is ahead of 10
-        x = told("thin 22 1 1;sitter 3 1;sitter 10 1;sitter 20 0;air 0 4;air 1 2;air 2 2;");
-        x.see(1, 0, 2, 1);
-        due("froms(0, 0) of two", x.froms(0, 0), 2);
-        due("froms(0, 1) of two: 10 itself and 11", x.froms(0, 1), 10);
+        // the first by its name: behind 0, 1 and 2 comes 3, ahead of 10
+        x = told("thin 22 1 1;sitter 0 1;sitter 1 1;sitter 2 1;");
+        for (int i = 0; i < 3; i++) {
+            x.see(i, 0, 1, 0);
+        }
+        due("froms(0, 0), neither 0 nor 1 nor 2", x.froms(0, 0), 17);
+        due("froms(0, 1), neither 0 nor 1 nor 2", x.froms(0, 1), 3);
         // may be told from now on: what has been told stays
         x = told("plain 22 9 9;sitter 22 4;");
         x.steps(1);
@@ -323,6 +321,12 @@ public final class SeenEdgesTest {
         x.see(1, 0, 10, 8);
         due("froms(0, 0), 12 and 2", x.froms(0, 0), 2);
         due("ask(0, 0), 12 and 2 alike", x.ask(0, 0), NONE);
+        // two CELLS are left by what is SEEN: 22, from where he HAS 1, and 12, from where he HAS 2
+        x = told("thin 0 2 2;sitter 43 0;sitter 43 0;sitter 43 0;sitter 22 1;air 0 1;");
+        x.see(3, 0, 2, 1);
+        due("froms(0, 0), 12 and 22", x.froms(0, 0), 2);
+        due("ask(0, 0), 12 and 22 apart", x.ask(0, 0), 3);
+        due("ask(0, 1), 12 and 22 apart", x.ask(0, 1), 1);
         due("ask(0, 2)", x.ask(0, 2), BAD);
         due("ask(0, -1)", x.ask(0, -1), BAD);
     }

@@ -328,7 +328,7 @@ public final class SheetEdgesTest {
 
     // ---- promise 39
 
-    /** What a pair of CELLS says: the SITTER of four who sits IN the CELL then, 10 times, and what read() answers. */
+    /** A pair as it is laid, and which of four SITTERS sits IN which CELL by it then; -1: it is refused by seat(). */
     private static void laid(int lane, int sitter, int cell, int wantSitter, int wantCell) {
         SmokeSeats x = told("sitter 22 1;sitter 22 1;sitter 22 1;sitter 22 1;");
         x.sheet(1, lane, 2);

@@ -135,7 +135,7 @@ public final class StepEdgesTest {
             due("price(" + y + ", 9)", x.price(y, 9), 0);
             due("price(" + y + ", 10)", x.price(y, 10), BAD);
             due("price(" + y + ", -1)", x.price(y, -1), BAD);
-            due("price(" + y + ", " + y + "), what it was still", x.price(y, y + 1), 9);
+            due("price(" + y + ", " + (y + 1) + ") behind those", x.price(y, y + 1), 9);
         }
         due("price(4, 0)", x.price(4, 0), BAD);
         due("price(-1, 0)", x.price(-1, 0), BAD);

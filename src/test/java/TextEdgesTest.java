@@ -185,8 +185,8 @@ public final class TextEdgesTest {
         full.unchangedBy("end(161)", s -> due("end()", s.end(161), BAD));
         Checks.sentence(0, "THE TAPE has 160 bytes, places from 0");
         due("text of 160 blanks", x.text(), 0);
-        due("text of the byte 0 at 0", Checks.tell(x, "!" + blank(159)), -10);
-        due("text of the byte 159", Checks.tell(x, blank(159) + "!"), -169);
+        due("text of a fault at 0", Checks.tell(new SmokeSeats(), "!" + blank(159)), -10);
+        due("text of a fault at 159", Checks.tell(new SmokeSeats(), blank(159) + "!"), -169);
     }
 
     // ---- promise 3
@@ -510,7 +510,7 @@ public final class TextEdgesTest {
         due("PACE of 01", x.life(1, 2), 1);
         due("LEFT of 00", x.life(1, 3), 0);
         for (int left = 0; left <= 99; left++) {
-            Checks.tell(x, "thin 0 1 " + left + ";");
+            x = Checks.told("thin 0 1 " + left + ";");
             due("LEFT", x.life(0, 3), left);
         }
         faulty("thin 0 1 100;", 9, 1);
@@ -578,8 +578,8 @@ public final class TextEdgesTest {
 
     private static void cellsOfLines() {
         Checks.sentence(0, "told AT a CELL");
-        SmokeSeats x = new SmokeSeats();
         for (int c = 0; c < 20; c++) {
+            SmokeSeats x = new SmokeSeats();
             int cell = Evenings.name(c);
             due("text() of " + cell, Checks.tell(x, "heavy " + cell + " 9 9;sitter " + cell + " 4;"), 2);
             due("AT", x.life(0, 1), cell);
